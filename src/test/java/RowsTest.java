@@ -151,6 +151,17 @@ public final class RowsTest {
             y.seed(12 + time);
             y.hours(7);
             y.deal(4);
+            y.joint(0, 12, 0, 9);
+            for (int what = 3; what <= 5; what++) y.set(3, what, 9);
+            y.turns(3, 0);
+            y.turn(3, -9);
+            Tapes.tell(y, "leak 2");
+            y.rule(1, 0);
+            y.hours(1);
+            d.due("it swells", y.told(3, 7), 1);
+            y.seed(8);
+            for (int i = 0; i < 8; i++) y.turn(0, 9);
+            d.due("one cracks", y.sink(3), 1);
             y.turn(0, 9);
             y.turns(1, 2);
             for (int what = 2; what <= 6; what++) y.set(2, what, 9);
@@ -167,6 +178,8 @@ public final class RowsTest {
             }
         }
         y.joint(0, 1, 1, 1);
+        int[] all = {0, 1, 1, 0, 0, 0, 1, 0};
+        for (int what = 0; what < 8; what++) d.due("it is new: told " + what, y.told(3, what), all[what]);
         d.due("kept anew", y.keep(), 4);
         y.deal(2);
         d.due("back to that", y.back(), 4);

@@ -13,6 +13,7 @@ public final class TextsTest {
         depths();
         values();
         names();
+        numbersAndWords();
         wraps();
         textTold();
         why();
@@ -111,6 +112,9 @@ public final class TextsTest {
         d.due("used up", x.count(6), 0);
         d.due("texts", x.count(4), 14);
         d.due("fee", x.fee(), 12);
+        x.joint(0, 10, 0, 0);
+        d.due("the fourteenth", x.fine(0), 23);
+        d.due("the fourteenth", x.why(2), 13);
         d.due("a fault stands first", Tapes.tell(x, "fee +"), -104);
         d.due("texts", x.count(4), 14);
         // no TEXT changes where the tape is at FAULT
@@ -130,6 +134,13 @@ public final class TextsTest {
         fault("lea g", 0);
         fault("leakg", 0);
         fault("fees d", 0);
+        fault("leakz", 0);
+        fault("leaka", 0);
+        fault("fee dz", 4);
+        fault("fee da", 4);
+        fault("fee 1" + (char) ('9' + 1), 5);
+        fault("fee d" + (char) ('a' - 1), 5);
+        fault("fee d" + (char) ('z' + 1), 5);
         fault("Leak g", 0);
         fault("  leek g", 2);
         fault("5", 0);
@@ -332,6 +343,22 @@ public final class TextsTest {
         d.due("TIGHT", x.fine(0), 13);
         Tapes.tell(x, "fine s");
         d.due("SWOLLEN", x.fine(0), 1);
+    }
+
+    static void numbersAndWords() {
+        QuarterTurn x = new QuarterTurn();
+        x.joint(5, 0, 0, 0);
+        x.hours(1);
+        Tapes.tell(x, "fee 0");
+        d.due("a number, no name", x.fee(), 0);
+        Tapes.tell(x, "fee 1");
+        d.due("a number, no name", x.fee(), 1);
+        Tapes.tell(x, "fee d");
+        d.due("a name", x.fee(), 60);
+        d.due("a FAULT at a word", Tapes.tell(x, "fee d d"), -106);
+        d.due("a word right at the start then", Tapes.tell(x, "fee f"), 3);
+        d.due("a word right at the start of the end", Tapes.tell(x, "fee"), -103);
+        d.due("a word right at the start then", Tapes.tell(x, "fee f"), 4);
     }
 
     static void wraps() {

@@ -193,7 +193,8 @@ public final class ThoughtsTest {
         d.due("behind eight", x.shut(2), 6 + 2);
         d.due("never", x.shut(3), NONE);
         for (int joint : WRONG_JOINTS) d.due("no joint", x.shut(joint), BAD);
-        // a SHAKE that loosens 40 down: 200 hours at most
+        shutAtTheBound();
+        // a SHAKE that loosens 40 down
         QuarterTurn y = new QuarterTurn();
         y.rule(1, 100);
         y.joint(0, 40, 0, 0);
@@ -213,6 +214,29 @@ public final class ThoughtsTest {
                 d.due("as a twin", twin(seed).shut(j), h > 200 ? NONE : h);
             }
         }
+    }
+
+    /** z, told so that TIGHT is shaken down to 0 just behind 200 HOURS, and just behind 201. */
+    static void shutAtTheBound() {
+        boolean[] was = new boolean[2];
+        for (int seed = 0; seed < 4000 && !(was[0] && was[1]); seed++) {
+            QuarterTurn twin = lateOne(seed);
+            int hours = 0;
+            for (; hours <= 201 && twin.told(0, 9) != 0; hours++) twin.hours(1);
+            if (hours == 200 || hours == 201) {
+                d.due("just behind " + hours, lateOne(seed).shut(0), hours == 200 ? 200 : NONE);
+                was[hours - 200] = true;
+            }
+        }
+        d.due("both were found", was[0] && was[1] ? 1 : 0, 1);
+    }
+
+    private static QuarterTurn lateOne(int seed) {
+        QuarterTurn x = new QuarterTurn();
+        x.seed(seed);
+        x.joint(0, 40, 0, 0);
+        Tapes.tell(x, "leak (g > 2) * 9");
+        return x;
     }
 
     static void mend() {
@@ -259,6 +283,10 @@ public final class ThoughtsTest {
         // TAPE 9 stays 9, so all ways are alike
         x.set(3, 5, 9);
         d.due("nine at most", x.mend(3, 1, 0), 0);
+        QuarterTurn r = calm();
+        r.joint(0, 1, 30, 0);
+        Tapes.tell(r, "leak r * 9");
+        d.due("RING 0", r.mend(0, 1, 1), 0);
         d.due("a cracked one: all alike", cracked().mend(0, 60, 0), 0);
         d.due("a cracked one", cracked().mend(0, 60, 1), 3600);
     }
