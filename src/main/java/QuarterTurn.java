@@ -36,7 +36,6 @@ public final class QuarterTurn {
 
     public int joint(int kind, int tight, int ring, int high) {
         if (!isKind(kind) || !within(tight, TIGHTEST) || !within(ring, 40) || !within(high, 9)) return BAD;
-        if (now.many >= JOINTS) return FULL;
         return now.add(kind, tight, ring, high);
     }
 
@@ -672,6 +671,7 @@ public final class QuarterTurn {
             return joint >= 0 && joint < many;
         }
 
+        /** The new one's number, or FULL. */
         int add(int kind, int tight, int ring, int high) {
             int number = many;
             if (number >= JOINTS) return FULL;

@@ -1,6 +1,9 @@
 import java.util.Random;
 
-/** Runs of 512 calls drawn by lot, with arguments near and far, each answer compared with the Oracle's. */
+/**
+ * Runs of 512 calls drawn by lot, with arguments near and far, each answer compared with the Oracle's; some begin near
+ * the last HOUR, some with nearly all TEXTS told.
+ */
 public final class OracleTest {
     private static final int RUNS = 150;
     private static final int[] FAR = {Integer.MIN_VALUE, Integer.MAX_VALUE, -1, -1000000005, 41, 101, 256, 65536, 100000};
@@ -24,7 +27,8 @@ public final class OracleTest {
         int runs = args.length > 0 ? Integer.parseInt(args[0]) : RUNS;
         for (int seed = 0; seed < runs; seed++) {
             OracleTest test = new OracleTest(seed);
-            for (int i = 0; i < 512; i++) {
+            int had = seed % 7 == 3 ? test.growOld() : seed % 7 == 5 ? test.learn() : 0;
+            for (int i = had; i < 512; i++) {
                 if (test.agrees()) continue;
                 System.out.println("OracleTest: run " + seed + ", call " + (i + 1) + "\n" + test.trail);
                 System.exit(1);
@@ -32,6 +36,30 @@ public final class OracleTest {
         }
         faultsAgree();
         System.out.println("OracleTest: " + runs + " runs agree");
+    }
+
+    /** THE HOUR comes near 9999: how many calls that took. */
+    private int growOld() {
+        for (int i = 0; i < 99; i++) {
+            x.hours(100);
+            o.hours(100);
+        }
+        int more = 40 + lot.nextInt(60);
+        x.hours(more);
+        o.hours(more);
+        return 100;
+    }
+
+    /** All but one or two TEXTS that there is room for are told: how many calls that took, at most. */
+    private int learn() {
+        int texts = 12 + lot.nextInt(2);
+        for (int i = 0; i < texts; i++) {
+            String text = i % 4 == 0 ? "leak g+" + i : i % 4 == 1 ? "fine t*" + i : "fee d-" + i;
+            Tapes.tell(x, text);
+            o.tape = text;
+            o.text();
+        }
+        return 3 * texts;
     }
 
     private int upTo(int most) {

@@ -74,7 +74,9 @@ public final class RowsTest {
         for (int i : new int[] {0, 1, 2, 7, 20, 58, 59}) {
             int[] wrong = row.clone();
             wrong[i]++;
-            d.due("wrong at " + i, checked(x, wrong, 60, 30), 1 + i);
+            QuarterTurn y = piped();
+            y.keep();
+            d.due("wrong at " + i, checked(y, wrong, 60, 30), 1 + i);
         }
         int[] wrong = row.clone();
         wrong[3]--;

@@ -5,6 +5,7 @@ final class Tapes {
 
     /** The tape is to be used up before; a text of at most 96 bytes. */
     static void put(QuarterTurn x, String text) {
+        if (text.length() > 96) throw new IllegalArgumentException(text);
         for (int i = 0; i < text.length(); i += 12) x.feed(four(text, i), four(text, i + 4), four(text, i + 8));
         x.trim(text.length());
     }
