@@ -21,6 +21,7 @@ public final class QuarterTurn {
     private final Pipe image = new Pipe(laws);
     /** All that is only thought happens here, so that nothing changes and nothing is made anew. */
     private final Pipe thought = new Pipe(laws);
+    private final Least least = new Least();
     private boolean imaged;
     private final Sheet[] sheets = new Sheet[SHEETS];
     private final Slot[] slots = new Slot[SLOTS];
@@ -172,17 +173,13 @@ public final class QuarterTurn {
 
     public int quarter(int joint, int what) {
         if (!now.has(joint) || !within(what, 1)) return BAD;
-        int best = NONE, least = 0;
+        least.begin();
         for (int n = -9; n <= 9; n++) {
             thought.takeFrom(now);
             thought.joints[joint].tighten(n);
-            int leak = thought.leaksOfAll();
-            if (best == NONE || leak < least) {
-                best = n;
-                least = leak;
-            }
+            least.look(n, thought.leaksOfAll());
         }
-        return what == 0 ? best : least;
+        return least.found(what);
     }
 
     public int behind(int n, int what) {
@@ -218,78 +215,59 @@ public final class QuarterTurn {
 
     public int mend(int joint, int n, int what) {
         if (!now.has(joint) || !isSpan(n) || !within(what, 1)) return BAD;
-        int best = NONE, least = 0;
+        least.begin();
         for (int way = 0; way <= 3; way++) {
             thought.takeFrom(now);
             thought.joints[joint].mendBy(way);
             thought.passHours(n);
-            if (best == NONE || thought.drops < least) {
-                best = way;
-                least = thought.drops;
-            }
+            least.look(way, thought.drops);
         }
-        return what == 0 ? best : least;
+        return least.found(what);
     }
 
     public int first(int n, int what) {
         if (!isSpan(n) || !within(what, 1)) return BAD;
-        int best = NONE, least = NONE;
+        least.begin();
         for (int i = 0; i < now.many; i++) {
             thought.takeFrom(now);
             thought.joints[i].tighten(1);
             thought.passHours(n);
-            if (best == NONE || thought.drops < least) {
-                best = i;
-                least = thought.drops;
-            }
+            least.look(i, thought.drops);
         }
-        return what == 0 ? best : least;
+        return least.found(what);
     }
 
     public int becomes(int joint, int n, int what) {
         if (!now.has(joint) || !isSpan(n) || !within(what, 1)) return BAD;
-        int best = NONE, least = 0;
+        least.begin();
         for (int kind = 0; kind < KINDS; kind++) {
             thought.takeFrom(now);
             thought.joints[joint].kind = kind;
             thought.passHours(n);
-            if (best == NONE || thought.drops < least) {
-                best = kind;
-                least = thought.drops;
-            }
+            least.look(kind, thought.drops);
         }
-        return what == 0 ? best : least;
+        return least.found(what);
     }
 
     public int loose(int n, int what) {
         if (!isSpan(n) || !within(what, 1)) return BAD;
-        int best = NONE, least = NONE;
+        least.begin();
         for (int i = 0; i < now.many; i++) {
             thought.takeFrom(now);
             thought.joints[i].tighten(-1);
             thought.passHours(n);
-            int tight = thought.tightOfAll();
-            if (best == NONE || tight < least) {
-                best = i;
-                least = tight;
-            }
+            least.look(i, thought.tightOfAll());
         }
-        return what == 0 ? best : least;
+        return least.found(what);
     }
 
     public int whose(int sheet, int what) {
         if (!isSheet(sheet) || !within(what, 1)) return BAD;
         Sheet row = sheets[sheet];
         if (row.isMissing()) return NOTHING;
-        int best = NONE, least = NONE;
-        for (int i = 0; i < now.many; i++) {
-            int apart = apartFrom(row, i);
-            if (best == NONE || apart < least) {
-                best = i;
-                least = apart;
-            }
-        }
-        return what == 0 ? best : least;
+        least.begin();
+        for (int i = 0; i < now.many; i++) least.look(i, apartFrom(row, i));
+        return least.found(what);
     }
 
     public int fee() {
@@ -769,6 +747,30 @@ public final class QuarterTurn {
             it.tighten(-1);
             it.swollen = 0;
             shaken++;
+        }
+    }
+
+    /** Of numbers looked at one behind the other, the least, and which it was: of several the first. */
+    private static final class Least {
+        private int which, number;
+
+        Least() {
+        }
+
+        void begin() {
+            which = NONE;
+            number = NONE;
+        }
+
+        void look(int next, int itsNumber) {
+            if (which != NONE && itsNumber >= number) return;
+            which = next;
+            number = itsNumber;
+        }
+
+        /** What 0 which, 1 the number; NONE where there was none to look at. */
+        int found(int what) {
+            return what == 0 ? which : number;
         }
     }
 
